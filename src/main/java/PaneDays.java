@@ -635,9 +635,13 @@ public final class PaneDays {
         final int[] rainOn = new int[LAST_DAY + 1];
         int orders;
         private final int[] order = new int[ORDERS * PARTS];
-        int stepMinutes = 1;
-        int floorMinutes = 3;
-        int hold = 20;
+        int stepMinutes;
+        int floorMinutes;
+        int hold;
+
+        Street() {
+            forget();
+        }
 
         int part(int which, int part) {
             return order[PARTS * which + part];
@@ -776,8 +780,7 @@ public final class PaneDays {
         private int length;
 
         Law() {
-            code[0] = 1;
-            length = 1;
+            forget();
         }
 
         void forget() {
@@ -884,41 +887,45 @@ public final class PaneDays {
             return tape.isWord("rain") ? RAIN : NONE;
         }
 
+        /** All in one method, as calls go at most eight deep and this is the deepest. */
         int valueFor(int[] named) {
             int top = 0;
             for (int i = 0; i < length; i++) {
                 int sign = code[i];
-                if (sign >= 0) {
-                    stack[top] = sign;
-                    top++;
-                } else if (sign >= -NAMES) {
-                    stack[top] = named[-1 - sign];
+                if (sign >= -NAMES) {
+                    stack[top] = sign >= 0 ? sign : named[-1 - sign];
                     top++;
                 } else if (top >= 2) {
                     top--;
-                    stack[top - 1] = join(sign, stack[top - 1], stack[top]);
+                    int a = stack[top - 1];
+                    int b = stack[top];
+                    int joined;
+                    switch (sign) {
+                        case PLUS:
+                            joined = a + b;
+                            break;
+                        case MINUS:
+                            joined = a - b;
+                            break;
+                        case TIMES:
+                            joined = a * b;
+                            break;
+                        case OVER:
+                            joined = b == 0 ? 0 : a / b;
+                            break;
+                        case LEAVES:
+                            joined = b == 0 ? 0 : a % b;
+                            break;
+                        case LEAST:
+                            joined = a < b ? a : b;
+                            break;
+                        default:
+                            joined = a > b ? a : b;
+                    }
+                    stack[top - 1] = joined;
                 }
             }
             return top > 0 ? stack[top - 1] : 0;
-        }
-
-        private static int join(int sign, int a, int b) {
-            switch (sign) {
-                case PLUS:
-                    return a + b;
-                case MINUS:
-                    return a - b;
-                case TIMES:
-                    return a * b;
-                case OVER:
-                    return b == 0 ? 0 : a / b;
-                case LEAVES:
-                    return b == 0 ? 0 : a % b;
-                case LEAST:
-                    return a < b ? a : b;
-                default:
-                    return a > b ? a : b;
-            }
         }
     }
 
@@ -1290,7 +1297,9 @@ public final class PaneDays {
                 return false;
             }
             broken |= 1 << pane;
-            Arrays.fill(depth, CELLS * pane, CELLS * pane + CELLS, 0);
+            for (int i = 0; i < CELLS; i++) {
+                depth[CELLS * pane + i] = 0;
+            }
             return true;
         }
 
@@ -1481,7 +1490,6 @@ public final class PaneDays {
         int patchCells;
         int patchDay;
         private final int[] mark = new int[LAST_DAY + 1];
-        private final int[] sum = new int[LAST_DAY + 1];
         private final int[] circles = new int[CELLS];
 
         static int circleAt(int x, int y, int r) {
@@ -1525,26 +1533,20 @@ public final class PaneDays {
             return cost;
         }
 
+        /** Later films are outside of earlier ones on each CELL: the latest DAY that all have costs least. */
         int bestDay(Glass glass, int pane, int cells) {
-            Arrays.fill(mark, 0);
-            Arrays.fill(sum, 0);
-            for (int i = 0; i < CELLS; i++) {
-                int cell = CELLS * pane + i;
-                int films = (cells >> i & 1) == 1 ? glass.depth[cell] : 0;
-                for (int k = 0; k < films; k++) {
-                    int day = glass.behind(cell, k);
-                    mark[day]++;
-                    sum[day] += k;
+            int first = 0;
+            while (first < CELLS - 1 && (cells >> first & 1) == 0) {
+                first++;
+            }
+            int cell = CELLS * pane + first;
+            for (int i = 0; i < glass.depth[cell]; i++) {
+                int day = glass.behind(cell, i);
+                if (costOf(glass, pane, cells, day) != NONE) {
+                    return day;
                 }
             }
-            int best = NONE;
-            int all = Integer.bitCount(cells);
-            for (int d = LAST_DAY; d >= 1; d--) {
-                if (all > 0 && mark[d] == all && (best == NONE || sum[d] < sum[best])) {
-                    best = d;
-                }
-            }
-            return best;
+            return NONE;
         }
 
         int countSeams(Glass glass, int pane, int cells) {

@@ -35,12 +35,15 @@ public final class PromisesTest {
         depths();
         covers();
         games();
+        gamesPlayed();
         rounds();
         shares();
         aheads();
         decades();
         images();
         counts();
+        edges();
+        leftovers();
         System.out.println(Script.asked() + " answers asked, " + Script.wrong() + " not as due");
         if (Script.wrong() != 0) {
             System.exit(1);
@@ -393,6 +396,35 @@ public final class PromisesTest {
             "game 0 31 0" + IAE, "game 0 1 2" + IAE, "game 0 1 -1" + IAE, "game 3 0 0" + NSE, "status 1 = 1");
     }
 
+    /** Three CELLS of 0 to 3 films: who wins is found by playing on to the end. */
+    private static void gamesPlayed() {
+        for (int films = 0; films < 64; films++) {
+            int[] row = {films % 4, films / 4 % 4, films / 16};
+            StringBuilder wiped = new StringBuilder("day;day;day;");
+            for (int i = 0; i < 3; i++) {
+                wiped.append(row[i] < 3 ? "cell 0 " + i + " 0 " + (3 - row[i]) + ";" : "");
+            }
+            int steps = wiped.toString().split(";").length;
+            for (int k = 1; k <= 4; k++) {
+                int bits = winningFirst(row, k);
+                Script.run("32: played", "street 'pane 3 1 0 0;' = 1", "work '" + wiped + "' = " + steps, "game 0 " + k + " 1 = " + bits,
+                    "game 0 " + k + " 0 = " + (bits != 0 ? 1 : 0));
+            }
+        }
+    }
+
+    private static int winningFirst(int[] row, int k) {
+        int bits = 0;
+        for (int i = 0; i < row.length; i++) {
+            for (int off = 1; off <= k && off <= row[i]; off++) {
+                int[] next = row.clone();
+                next[i] -= off;
+                bits |= winningFirst(next, k) == 0 ? 1 << i : 0;
+            }
+        }
+        return bits;
+    }
+
     private static void rounds() {
         String street = "street 'pane 1 1 10 0;pane 1 1 20 2;pane 1 1 0 0;pane 1 1 10 0;order 0 0 0 3 5;order 1 0 0 3 9;order 2 0 0 3 3;order 3 0 0 3 5;order 0 0 0 3 4;pace 2 5;' = 4";
         Script.run("33", street, "round 0 0 = 0", "round 0 1 = 0", "round 1 0 = 20", "round 1 1 = 1", "round 2 0 = 50", "round 3 0 = 50", "round 3 1 = 12",
@@ -466,5 +498,80 @@ public final class PromisesTest {
         Script.run("41, 42", STREET, "status -1 = -1", "status 3 = -1", "count -1 = -1", "count 3 = -1", "image = 1", "shows 9 9 9" + NSE, "shows 0 9 9" + IOOBE, "told 99" + IAE, "told 98" + IAE,
             "status 0 = 1", "status 1 = 1", "status 2 = 2", "restore = 0", "status 2 = 2", "street '' = 0", "status 0 = 1", "status 1 = 1", "status 2 = 2", "street 'x' = -9", "status 2 = 2",
             "feed 1 1 1 1 1 = 20", "count 1 = 20", "image = 1", "count 0 = 1", "count 2 = 0", "street 0 = 0", "work '' = 0", "count 2 = 1", "count 1 = 0", "count 0 = 0");
+    }
+
+    private static void edges() {
+        Script.run("DAY 200", "street 'pane 2 1 0 0;' = 1", "work 'again 19 [day;day;day;day;day;day;day;day;day;day;];' = 190",
+            "work 'again 10 [day;];' = 10", "have 0 200 = 3", "showing 0 200 = 3", "films 200 1 = 2", "films 200 0 = 0", "cost 0 3 200 = 0",
+            "view 0 3 0 = 200", "view 0 3 1 = 0", "sights 0 = 1", "oldest 0 0 = 181", "oldest 0 1 = 199", "work 'wipe 0 1;' = 1",
+            "films 200 0 = 2", "work 'wipe 0 30;' = 1", "oldest 0 0 = -1", "thick = -1", "decade 0 0 5 0 = 0", "ahead 0 5 0 = 0");
+        Script.run("oldest and newest on DAY 200 alone", "street 'pane 2 1 0 0;' = 1", "law 'day/200' = 1",
+            "work 'again 19 [day;day;day;day;day;day;day;day;day;day;];' = 190", "work 'again 10 [day;];' = 10", "oldest 0 0 = 200",
+            "oldest 0 1 = -1", "sights 0 = 1", "view 0 1 0 = 200", "thick = 0");
+        Script.run("a DECADE beyond DAY 200 goes on drawing", "street 'pane 1 1 0 0;' = 1",
+            "work 'again 19 [day;day;day;day;day;day;day;day;day;day;];' = 190", "work 'again 9 [day;];' = 9", "decade 5 0 60 0 = 20",
+            "decade 5 16 60 1 = 1", "span 5 20 1 60 2 0 = " + wholeBy(5, 20, 1, 60));
+        Script.run("32: more CELLS than one", "street 'pane 3 1 0 0;' = 1", "work 'day;day;' = 2", "game 0 2 0 = 1", "game 0 2 1 = 7",
+            "game 0 1 0 = 0", "game 0 1 1 = 0", "work 'cell 0 0 0 1;' = 1", "game 0 1 0 = 1", "game 0 1 1 = 7", "game 0 2 1 = 1");
+        Script.run("38: SEEDS rise", "street 'pane 1 1 0 0;' = 1", "span 1 20 1 7 2 0 = " + wholeBy(1, 20, 1, 7), "span 1 20 3 7 2 0 = " + wholeBy(1, 20, 3, 7),
+            "span -9 20 2 7 2 0 = " + wholeBy(-9, 20, 2, 7), "span 2147483640 20 1 7 2 0 = " + wholeBy(2147483640, 20, 1, 7),
+            "span 5 20 16 7 1 0 = 0", "span 1 20 1 7 0 0 = 0", "span 1 20 1 7 1 0 = 7");
+        Script.run("18: MET of many ORDERS", "street 'pane 2 1 0 0;order 0 0 0 1 1;order 0 1 0 1 1;order 0 1 0 2 2;order 0 0 0 1 2;' = 1",
+            "work 'day;' = 1", "work 'day;' = 1", "work 'day;' = 1", "order 0 5 = 1", "order 1 5 = 1", "order 2 5 = 1", "order 3 5 = 2", "lost = 3");
+        Script.run("19: no such ORDER is counted", "needs 0" + NSE, "order 0 0" + NSE, "status 1 = 2", "status 2 = 0");
+        Script.run("28: round a corner", "street 'pane 3 3 0 0;' = 1",
+            "work 'day;day;wipe 0 1;day;cell 0 2 0 1;cell 0 1 1 1;cell 0 0 2 1;cell 0 1 2 1;' = 8", "patch 0 0 = 3", "patch 0 1 = 3",
+            "work 'wipe 0 30;day;cell 0 0 1 1;cell 0 1 1 1;cell 0 1 0 1;' = 5", "patch 0 0 = 5", "patch 0 1 = 4");
+        Script.run("28: alike ones", "street 'pane 3 1 0 0;' = 1", "work 'day;day;day;cell 0 0 0 1;cell 0 2 0 2;' = 5", "patch 0 0 = 1", "patch 0 1 = 3");
+        Script.run("35: another PANE", STREET, "work 'day;day;cell 1 0 0 1;cell 2 0 0 1;' = 4", "share 1 0 0 11 = 2", "share 1 1 0 11 = 5", "share 1 2 0 11 = 4",
+            "share 2 0 0 31 = 1", "share 2 1 0 31 = 2", "share 2 1 0 32 = 3", "share 2 3 3 32 = 2");
+        Script.run("33: floors down", "street 'pane 1 1 5 9;pane 1 1 5 4;order 0 0 0 1 1;order 1 0 0 1 9;' = 2", "round 3 0 = 32", "round 3 1 = 21",
+            "by 3 16 = true", "by 3 15 = false", "work 'day;' = 1", "by 3 31 = false", "by 3 32 = true");
+        Script.run("4: seen and deep", "street 'pane 1 1 0 0;' = 1", "law 'day-1' = 1", "work 'day;day;day;' = 3", "deep 0 0 0 = 2", "law 'seen-2' = 1",
+            "settles 0 0 0 = true", "law 'deep-1' = 1", "settles 0 0 0 = true", "law 'deep-2' = 1", "settles 0 0 0 = false", "law 'bazz' = -9", "fault = 0",
+            "law 'bay' = -9", "law 'z' = -9", "fault = 0", "law 'dayz' = -9", "fault = 0", "law 'zday' = -9", "fault = 0");
+        Script.run("17: no rain, whatever it was", "street 'pane 1 1 0 0;rain 1 3;rain 2 3;' = 1", "law 'rain' = 1", "work 'day;' = 1", "shows 0 0 0 = 1",
+            "settles 0 0 0 = false", "work 'day;' = 1", "shows 0 0 0 = 2", "told 6 = 1");
+        Script.run("6: a CELL twice in the last row", "book '3 3 1;3 3 2;' = -8", "fault = 8", "book '0 0 1;0 4 2;' = -8", "fault = 8");
+        Script.run("9: REFUSED, behind undo", "work '' = 0", "work 'rinse;' = 0", "told 8 = 1", "undo = 1", "told 8 = 0");
+        Script.run("37: WASHED ahead of the break", "street 'pane 2 2 0 0;rain 2 1;rain 4 1;' = 1", "decade 5 0 4 2 = 8", "decade 5 1 4 2 = "
+            + 4 * (Math.min(4, wholeDays(5, 1, 4)) / 2));
+    }
+
+    /** For a STREET of one PANE: on how many DAYS it stays whole, counted with 64 bits. */
+    private static int wholeDays(int seed, int q, int days) {
+        long s = seed & 0xFFFFFFFFL;
+        for (int d = 0; d < days; d++) {
+            s = (s * 1103515245L + 12345L) & 0xFFFFFFFFL;
+            if ((s >> 16 & 32767) % 16 < q) {
+                return d;
+            }
+        }
+        return days;
+    }
+
+    private static int wholeBy(int seed, int many, int q, int days) {
+        int whole = 0;
+        for (int i = 0; i < many; i++) {
+            whole += wholeDays(seed + i, q, days) == days ? 1 : 0;
+        }
+        return whole;
+    }
+
+    /** What one text told is not in the next, nor in the one behind that. */
+    private static void leftovers() {
+        Script.run("3: nothing is left of a STREET", "street 'pane 2 2 5 5;rain 1 1;rain 2 9;order 0 1 1 1 1;pace 9 9;hold 1;' = 1",
+            "street 'pane 2 2 5 5;rain 1 1;rain 2 9;order 0 1 1 1 1;pace 9 9;hold 1;' = 1", "street 'pane 1 1 5 2;order 0 0 0 1 2;' = 1", "told 1 = 1", "told 2 = 0",
+            "round 1 0 = 11", "work 'day;day;day;' = 3", "deep 0 0 0 = 3", "told 6 = 0", "street 'pane 1 1 5 2;' = 1", "told 1 = 0", "told 2 = 0",
+            "work 'day;day;' = 2", "deep 0 0 0 = 2", "street '' = 0", "told 0 = 0");
+        Script.run("3: nothing is left of a WORK", "street 'pane 1 1 0 0;order 0 0 0 1 1;' = 1", "work 'day;day;wipe 0 1;' = 3", "order 0 5 = 1", "told 5 = 1",
+            "street 'pane 1 1 0 0;order 0 0 0 1 1;' = 1", "told 5 = 0", "films 2 0 = 0", "work 'day;wipe 0 1;rinse;day;' = 4", "order 0 5 = 2");
+        Script.run("3: nothing is left of a LAW", "street 'pane 1 1 0 0;' = 1", "law '0*1' = 1", "law '0+0' = 1", "street 'pane 1 1 0 0;' = 1",
+            "settles 0 0 0 = true", "law '0' = 1", "street 'pane 1 1 0 0;' = 1", "settles 0 0 0 = true", "law 'day' = 1", "law '0' = 1", "settles 0 0 0 = false");
+        Script.run("3: nothing is left of a BOOK", "street 'pane 1 1 0 0;' = 1", "book '0 0 9;3 3 3;' = 2", "book '0 0 9;' = 1", "street 'pane 1 1 0 0;' = 1",
+            "told 7 = 0", "tells 0 = 2147483647", "look 0 0 = 0", "look 0 1 = 31", "book '0 0 0;' = 1", "tells 0 = 2147483647", "look 0 0 = -1");
+        Script.run("40: the WORKS of an IMAGE stay its own", "street 'pane 1 1 0 0;' = 1", "work 'day;' = 1", "work 'day;' = 1", "work 'day;' = 1", "image = 1",
+            "undo = 2", "undo = 1", "undo = 0", "law '0' = 1", "work 'again 5 [day;];' = 5", "work 'again 5 [day;];' = 5", "work 'day;' = 1", "restore = 0", "told 3 = 3",
+            "told 4 = 3", "undo = 2", "told 3 = 2", "told 4 = 2", "undo = 1", "told 3 = 1", "told 4 = 1", "undo = 0", "told 3 = 0", "told 4 = 0");
     }
 }
