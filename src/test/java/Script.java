@@ -5,13 +5,19 @@ import java.util.List;
 
 /**
  * Calls on one new object, written a line each: "told 3 = 5" answers 5, "told 9 ! IllegalArgument" throws that
- * exception, "street 'pane 1 1 0 0;' = 1" feeds the text and takes all of it.
+ * exception, "street 'pane 1 1 0 0;' = 1" feeds the text and takes all of it, "tape 'x' = 20" feeds it and asks how
+ * many bytes there are, "pass 200 = 200" lets so many DAYS pass by WORKS and asks for the DAY, "new" goes on with
+ * another new object.
  */
 final class Script {
     private static int wrong;
     private static int asked;
+    /** What more calls on one object would answer is free. */
+    private static final int CALLS = 512;
+
     private final String name;
-    private final PaneDays days = new PaneDays();
+    private PaneDays days = new PaneDays();
+    private int calls;
 
     private Script(String name) {
         this.name = name;
@@ -20,7 +26,12 @@ final class Script {
     static void run(String name, String... lines) {
         Script s = new Script(name);
         for (String line : lines) {
-            s.line(line);
+            if (line.equals("new")) {
+                s.days = new PaneDays();
+                s.calls = 0;
+            } else {
+                s.line(line);
+            }
         }
     }
 
@@ -41,7 +52,11 @@ final class Script {
         if (quote >= 0) {
             String text = call.substring(quote + 1, call.length() - 1);
             feed(text);
-            answer = answer(call.substring(0, quote).trim(), new int[] {text.length()});
+            String method = call.substring(0, quote).trim();
+            answer = method.equals("tape") ? answer("count", new int[] {1}) : answer(method, new int[] {text.length()});
+        } else if (call.startsWith("pass ")) {
+            pass(Integer.parseInt(call.substring(5)));
+            answer = answer("told", new int[] {3});
         } else {
             String[] parts = call.split(" +");
             int[] args = new int[parts.length - 1];
@@ -57,14 +72,29 @@ final class Script {
         }
     }
 
+    /** One WORK begins 200 STEPS at most, the again among them. */
+    private void pass(int n) {
+        for (int left = n; left > 0; left -= 190) {
+            int now = Math.min(left, 190);
+            String text = "again " + now / 10 + "[" + "day;".repeat(10) + "];" + "day;".repeat(now % 10);
+            feed(text);
+            answer("work", new int[] {text.length()});
+        }
+    }
+
     private void feed(String text) {
         for (int i = 0; i < text.length(); i += 20) {
+            calls++;
             days.feed(Texts.four(text, i), Texts.four(text, i + 4), Texts.four(text, i + 8), Texts.four(text, i + 12),
                 Texts.four(text, i + 16));
         }
     }
 
     private String answer(String method, int[] args) {
+        calls++;
+        if (calls > CALLS) {
+            return "nothing: too many calls on one object";
+        }
         List<Class<?>> types = new ArrayList<>();
         List<Object> values = new ArrayList<>();
         for (int a : args) {
