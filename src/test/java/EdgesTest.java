@@ -518,6 +518,7 @@ public final class EdgesTest {
         of(26,
             "The earliest DAY of which a film is on a PANE (what 0), the latest that is shown by none of its CELLS, but is on it (1); NONE.",
             
+            
             FOUR, "oldest 0 0 = -1", "oldest 0 1 = -1", "work 'day;' = 1", "oldest 0 0 = 1", "oldest 0 1 = -1", "work 'day;day;' = 2",
             "oldest 0 0 = 1",
             "oldest 0 1 = 2", "work 'cell 0 0 0 1;' = 1", "oldest 0 1 = 1", "work 'cell 0 0 0 1;' = 1", "oldest 0 1 = 2",
@@ -559,6 +560,11 @@ public final class EdgesTest {
         Script.run("28: a snake", BIG, "law '1-y%2+y%2*((1-y/2)*(x/3)+y/2*(1-least[1,x]))' = 1", "work 'day;' = 1",
             "showing 0 1 = " + snake,
             "patch 0 0 = 10", "patch 0 1 = 1", "work 'cell 0 1 0 1;' = 1", "patch 0 0 = 8", "work 'cell 0 3 1 1;' = 1", "patch 0 0 = 5");
+        // open upwards, downwards, to either side: two arms hang together only by what joins them
+        Script.run("28: two arms", "street 'pane 3 2 0 0;' = 1", "work 'day;cell 0 1 1 1;' = 2", "patch 0 0 = 5",
+            "work 'day;cell 0 1 0 2;' = 2", "patch 0 0 = 5",
+            "patch 0 1 = 2", "street 'pane 2 3 0 0;' = 1", "work 'day;cell 0 1 1 1;' = 2", "patch 0 0 = 5", "work 'day;cell 0 0 1 2;' = 2",
+            "patch 0 0 = 5", "patch 0 1 = 2");
     }
 
     private static void tellsAndLook() {
@@ -628,6 +634,7 @@ public final class EdgesTest {
         of(33, "ROUND: 0 minutes, 1 the PANES as digits to the base 10 (each and 1; the first the highest; 0: none).",
             "street 'pane 1 1 10 0;pane 1 1 20 0;pane 1 1 30 0;pane 1 1 40 0;pane 1 1 50 1;" + "order 4 0 0 1 1;order 3 0 0 1 1;order 2 0 0 1 1;order 1 0 0 1 1;order 0 0 0 1 1;' = 5",
             
+            
             "round 0 0 = 0", "round 0 1 = 0", "round 1 0 = 53", "round 1 1 = 5", "round 16 0 = 10", "round 16 1 = 1", "round 31 0 = 53",
             "round 31 1 = 12345", "round 17 1 = 15",
             "round 6 0 = 40", "round 6 1 = 34", "round 14 1 = 234", "round 0 2" + IAE, "round 0 -1" + IAE,
@@ -650,6 +657,7 @@ public final class EdgesTest {
     private static void by() {
         of(34, "BY so many minutes (1 to 999)",
             "street 'pane 1 1 60 9;pane 1 1 0 0;pane 1 1 1 0;order 0 0 0 1 1;order 1 0 0 1 1;order 2 0 0 1 1;order 0 0 0 1 200;pace 9 9;' = 3",
+            
             "by 0 1 = true",
             "by 0 0" + IAE, "by 0 1000" + IAE, "by 0 999 = true", "by 0 -1" + IAE, "by 0 2147483647" + IAE, "by 0 -2147483648" + IAE,
             "by 2 1 = true", "by 4 4 = false",
@@ -716,6 +724,11 @@ public final class EdgesTest {
             "decade 0 0 2 0 = 2", "decade 0 16 1 1 = 2",
             "told 3 = 2", "told 6 = 3", "pane 1 5 = 0", "told 4 = 1");
         Script.run("37: the LAW", "street 'pane 2 1 0 0;' = 1", "law 'x*(day%2)' = 1", "decade 3 0 5 0 = 3", "decade 3 0 60 0 = 20");
+        Script.run("36 to 38: five PANES", "street '" + times(5, "pane 4 4 0 0;") + "rain 2 1;' = 5", "decade 1 0 3 0 = 160",
+            "decade 1 0 3 2 = 80", "decade 1 16 3 1 = 5",
+            "ahead 4 3 0 = 32", "ahead 4 60 0 = 320", "span 1 20 0 3 0 4 = 160", "span 1 20 0 3 1 4 = 160", "span 1 20 0 3 2 4 = 20",
+            "work 'break 4;' = 1", "decade 1 0 3 0 = 128",
+            "decade 1 0 3 1 = 1", "span 1 20 0 3 2 4 = 0", "span 1 20 0 3 2 3 = 20");
         Script.run("37: DAY 200", "street 'pane 1 1 0 0;rain 200 1;hold 30;' = 1", "pass 199 = 199", "decade 1 0 1 0 = 30",
             "decade 1 0 60 0 = 30", "decade 1 0 60 2 = 1",
             "work 'day;' = 1", "decade 1 0 60 0 = 30", "decade 1 0 60 2 = 0", "decade 1 16 1 1 = 1", "decade 1 16 1 0 = 0");
@@ -800,6 +813,7 @@ public final class EdgesTest {
     private static void statusAndCount() {
         of(41,
             "How many calls were refused: 0 IndexOutOfBoundsException, 1 NoSuchElementException, 2 IllegalArgumentException; NONE for others.",
+            
             
             ONE, "status 0 = 0", "status 1 = 0", "status 2 = 0", "shows 0 1 0" + IOOBE, "share 0 1 0 -1" + IOOBE, "status 0 = 2",
             "shows 1 0 0" + NSE, "order 0 9" + NSE,
