@@ -58,6 +58,8 @@ public final class EdgesTest {
         image();
         restore();
         statusAndCount();
+        fifthPane();
+        fullTape();
         int missing = 0;
         for (String words : doc.unquoted()) {
             if (!words.startsWith("Terms: ")) {
@@ -519,6 +521,8 @@ public final class EdgesTest {
             "The earliest DAY of which a film is on a PANE (what 0), the latest that is shown by none of its CELLS, but is on it (1); NONE.",
             
             
+            
+            
             FOUR, "oldest 0 0 = -1", "oldest 0 1 = -1", "work 'day;' = 1", "oldest 0 0 = 1", "oldest 0 1 = -1", "work 'day;day;' = 2",
             "oldest 0 0 = 1",
             "oldest 0 1 = 2", "work 'cell 0 0 0 1;' = 1", "oldest 0 1 = 1", "work 'cell 0 0 0 1;' = 1", "oldest 0 1 = 2",
@@ -635,6 +639,8 @@ public final class EdgesTest {
             "street 'pane 1 1 10 0;pane 1 1 20 0;pane 1 1 30 0;pane 1 1 40 0;pane 1 1 50 1;" + "order 4 0 0 1 1;order 3 0 0 1 1;order 2 0 0 1 1;order 1 0 0 1 1;order 0 0 0 1 1;' = 5",
             
             
+            
+            
             "round 0 0 = 0", "round 0 1 = 0", "round 1 0 = 53", "round 1 1 = 5", "round 16 0 = 10", "round 16 1 = 1", "round 31 0 = 53",
             "round 31 1 = 12345", "round 17 1 = 15",
             "round 6 0 = 40", "round 6 1 = 34", "round 14 1 = 234", "round 0 2" + IAE, "round 0 -1" + IAE,
@@ -657,6 +663,8 @@ public final class EdgesTest {
     private static void by() {
         of(34, "BY so many minutes (1 to 999)",
             "street 'pane 1 1 60 9;pane 1 1 0 0;pane 1 1 1 0;order 0 0 0 1 1;order 1 0 0 1 1;order 2 0 0 1 1;order 0 0 0 1 200;pace 9 9;' = 3",
+            
+            
             
             "by 0 1 = true",
             "by 0 0" + IAE, "by 0 1000" + IAE, "by 0 999 = true", "by 0 -1" + IAE, "by 0 2147483647" + IAE, "by 0 -2147483648" + IAE,
@@ -815,6 +823,8 @@ public final class EdgesTest {
             "How many calls were refused: 0 IndexOutOfBoundsException, 1 NoSuchElementException, 2 IllegalArgumentException; NONE for others.",
             
             
+            
+            
             ONE, "status 0 = 0", "status 1 = 0", "status 2 = 0", "shows 0 1 0" + IOOBE, "share 0 1 0 -1" + IOOBE, "status 0 = 2",
             "shows 1 0 0" + NSE, "order 0 9" + NSE,
             "alike 1 1" + NSE, "status 1 = 3", "told 9" + IAE, "street 1" + IAE, "law 1" + IAE, "work 1" + IAE, "book 1" + IAE,
@@ -836,5 +846,40 @@ public final class EdgesTest {
             "work 'bad' = -9", "count 2 = 1", "work '' = 0", "count 2 = 2", "undo = 1", "count 2 = 1", "restore = 1", "count 2 = 0",
             "count 0 = 1",
             "tape '" + times(600, " ") + "' = 600", "feed 0 0 0 0 0 = -1", "count 1 = 600", "street 0 = 0", "count 1 = 0", "count 0 = 0");
+    }
+
+    /** The last CELL of the last PANE: no call looks behind it. */
+    private static void fifthPane() {
+        Script.run("10 to 38: the fifth PANE", "street '" + times(5, "pane 4 4 0 0;") + "order 4 3 3 1 9;order 4 0 0 2 9;' = 5",
+            "work 'day;day;cell 4 3 3 1;' = 3",
+            "pane 4 4 = 31", "pane 4 5 = 0", "shows 4 3 3 = 1", "deep 4 3 3 = 1", "film 4 3 3 0 = 1", "film 4 3 3 1 = 0",
+            "have 4 2 = 32767", "have 4 1 = 65535",
+            "have 3 2 = 65535", "showing 4 2 = 32767", "showing 4 1 = 32768", "showing 4 0 = 0", "settles 4 3 3 = true", "order 0 5 = 0",
+            "needs 0 = 0", "needs 1 = 0",
+            "cost 4 65535 1 = 15", "cost 4 65535 2 = -1", "view 4 65535 0 = 1", "view 4 65535 1 = 15", "view 4 32767 0 = 2", "seams 4 = 2",
+            "seams 3 = 0", "sights 4 = 2",
+            "alike 4 4 = 65535", "alike 3 4 = 32767", "alike 4 0 = 32767", "oldest 4 0 = 1", "oldest 4 1 = -1", "thick = 0",
+            "patch 4 0 = 15", "patch 4 1 = 2",
+            "book '3 3 1;0 0 2;' = 2", "tells 4 = 1", "tells 3 = 0", "look 4 0 = 1", "look 4 1 = 1", "cover 4 65535 6 1 = 0",
+            "game 4 1 0 = 1", "game 4 1 1 = 65535",
+            "round 3 0 = 0", "round 3 1 = 5", "by 3 1 = true", "share 4 3 3 31 = 1", "share 4 0 0 31 = 2", "ahead 4 1 0 = 47",
+            "ahead 4 1 1 = 0", "ahead 4 1 2 = 1",
+            "span 1 2 0 1 2 4 = 2", "work 'circle 4 3 3 6 9;break 4;' = 2", "pane 4 4 = 0", "showing 4 0 = 65535", "patch 4 0 = 0",
+            "alike 4 4 = 65535", "seams 4 = 0");
+    }
+
+    /** Texts that end too early on a full TAPE: no byte is read behind it. */
+    private static void fullTape() {
+        for (String end : new String[] {"pane", "pane 1", "rain", "order", "pace 1", "hold", "hold 1", "h", "1", "-"}) {
+            int n = 600 - end.length();
+            int place = end.equals("h") || end.equals("1") || end.equals("-") ? n : 600;
+            Script.run("3: 600 bytes that end in " + end, "street '" + times(n, " ") + end + "' = -9", "fault = " + place);
+            String longer = times(n, " ") + end;
+            boolean isLaw = end.equals("pane") || end.equals("rain") || end.equals("1");
+            Script.run("4 to 6: " + end + " at the end of all", "tape '" + longer.substring(450) + "' = 160",
+                "law 150 = " + (isLaw ? 1 : -9),
+                "tape '" + longer.substring(400) + "' = 200",
+                "work 200 = -9", "tape '" + longer.substring(500) + "' = 100", "book 100 = -9");
+        }
     }
 }
