@@ -366,7 +366,7 @@ public final class PaneDays {
         needWhat(what, 2);
         need(pane >= 0 && pane < street.panes);
         weather.foresee(past.now, street, law, days);
-        int fewest = Integer.MAX_VALUE;
+        int fewest = PANES * CELLS * HELD;
         int most = 0;
         int whole = 0;
         for (int i = 0; i < many; i++) {
@@ -824,42 +824,36 @@ public final class PaneDays {
             }
         }
 
+        /** All that may be opened is read here, as calls go at most eight deep. */
         private void readUnit(Tape tape, int open) {
             if (tape.kind == Tape.NUMBER) {
                 put(tape.takeNumber(0, 999));
                 return;
             }
-            int pair = tape.isWord("least") ? LEAST : tape.isWord("most") ? MOST : 0;
             int name = nameOf(tape);
             if (name != NONE) {
                 put(-1 - name);
                 tape.step();
-            } else if (pair == 0 && !tape.isSign('(')) {
+                return;
+            }
+            int pair = tape.isWord("least") ? LEAST : tape.isWord("most") ? MOST : 0;
+            if (pair == 0 && !tape.isSign('(')) {
                 tape.wrong(CANT_STAND);
             } else if (open >= OPEN) {
                 tape.wrong(TOO_MANY);
+            } else if (pair == 0) {
+                tape.step();
+                readSum(tape, open + 1);
+                tape.takeSign(')');
             } else {
                 tape.step();
-                readOpened(tape, open + 1, pair);
-            }
-        }
-
-        private void readOpened(Tape tape, int open, int pair) {
-            if (pair != 0) {
-                readPair(tape, open);
+                tape.takeSign('[');
+                readSum(tape, open + 1);
+                tape.takeSign(',');
+                readSum(tape, open + 1);
+                tape.takeSign(']');
                 put(pair);
-            } else {
-                readSum(tape, open);
-                tape.takeSign(')');
             }
-        }
-
-        private void readPair(Tape tape, int open) {
-            tape.takeSign('[');
-            readSum(tape, open);
-            tape.takeSign(',');
-            readSum(tape, open);
-            tape.takeSign(']');
         }
 
         private static int nameOf(Tape tape) {
@@ -1087,7 +1081,8 @@ public final class PaneDays {
 
     /** A BOOK of what was seen, and how deep a PANE may have been wiped by it. */
     private static final class Book {
-        static final int ALL_DEPTHS = Integer.MAX_VALUE;
+        /** Bits 0 to 30. */
+        static final int ALL_DEPTHS = 0x7FFFFFFF;
 
         int lines;
         private int cells;

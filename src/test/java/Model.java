@@ -10,6 +10,7 @@ import java.util.function.ToIntFunction;
 /** The document told a second time, plainly and slowly, with the Java library: what PaneDays is held against. */
 final class Model {
     /** A FAULT found while a text is read. */
+    @SuppressWarnings("serial")
     static final class Fault extends RuntimeException {
         final int kind;
         final int place;

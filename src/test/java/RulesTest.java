@@ -1,14 +1,23 @@
+import java.io.File;
 import java.io.IOException;
+import java.io.PrintWriter;
+import java.io.StringWriter;
+import java.net.URISyntaxException;
 import java.nio.file.Files;
 import java.nio.file.Path;
 import java.util.ArrayList;
 import java.util.HashSet;
 import java.util.List;
+import java.util.Map;
+import java.util.Optional;
 import java.util.Set;
+import java.util.TreeMap;
+import java.util.TreeSet;
 import java.util.regex.Matcher;
 import java.util.regex.Pattern;
+import java.util.spi.ToolProvider;
 
-/** The rules of LANGUAGE.md that can be seen in the source by its text. */
+/** The rules of LANGUAGE.md that can be seen in the source by its text, and how deep its calls go. */
 public final class RulesTest {
     private static final List<String> WRONG = new ArrayList<>();
 
@@ -35,8 +44,7 @@ public final class RulesTest {
     }
 
     private static void calls(String source) {
-        Set<String> fine = Set.of("Arrays.fill", "System.arraycopy", "Math.min", "Math.max", "Math.abs", "Integer.bitCount",
-            "Integer.MAX_VALUE");
+        Set<String> fine = Set.of("Arrays.fill", "System.arraycopy", "Math.min", "Math.max", "Math.abs", "Integer.bitCount");
         Matcher m = Pattern.compile("\\b(Arrays|System|Math|Integer|Long|String|List)\\.(\\w+)").matcher(source);
         while (m.find()) {
             if (!fine.contains(m.group())) {
@@ -87,11 +95,81 @@ public final class RulesTest {
         }
     }
 
-    public static void main(String[] args) throws IOException {
+    /** Which method calls which, as javap tells it; "PaneDays$Law.read" by what it calls. */
+    private static Map<String, Set<String>> callsOf(ToolProvider javap) throws URISyntaxException {
+        File[] files = new File(PaneDays.class.getProtectionDomain().getCodeSource().getLocation().toURI()).listFiles();
+        StringWriter told = new StringWriter();
+        List<String> args = new ArrayList<>(List.of("-c", "-p"));
+        for (File f : files == null ? new File[0] : files) {
+            if (f.getName().matches("PaneDays(\\$\\w+)?\\.class")) {
+                args.add(f.getPath());
+            }
+        }
+        PrintWriter out = new PrintWriter(told);
+        javap.run(out, out, args.toArray(new String[0]));
+        Map<String, Set<String>> calls = new TreeMap<>();
+        Pattern type = Pattern.compile("^[a-z ]*class (\\S+).*");
+        Pattern method = Pattern.compile("^  \\w.*?([\\w$]+)\\(.*");
+        Pattern call = Pattern.compile(".* invoke\\w+ .*// (?:Interface)?Method ([^:]+):.*");
+        String in = "";
+        String from = "";
+        for (String line : told.toString().split("\n")) {
+            Matcher t = type.matcher(line);
+            Matcher m = method.matcher(line);
+            Matcher c = call.matcher(line);
+            if (t.matches()) {
+                in = t.group(1);
+            } else if (m.matches()) {
+                from = in + "." + m.group(1);
+                calls.put(from, new TreeSet<>());
+            } else if (c.matches()) {
+                calls.get(from).add(c.group(1).contains(".") ? c.group(1) : in + "." + c.group(1));
+            }
+        }
+        return calls;
+    }
+
+    private static List<String> deepest(Map<String, Set<String>> calls, String from, Set<String> open) {
+        List<String> best = new ArrayList<>();
+        open.add(from);
+        for (String to : calls.getOrDefault(from, Set.of())) {
+            if (!open.contains(to)) {
+                List<String> way = deepest(calls, to, open);
+                best = way.size() > best.size() ? way : best;
+            }
+        }
+        open.remove(from);
+        best.add(0, from);
+        return best;
+    }
+
+    /** The library's own methods at the end of a row are counted too. */
+    private static void depths() throws URISyntaxException {
+        Optional<ToolProvider> javap = ToolProvider.findFirst("javap");
+        if (javap.isEmpty()) {
+            System.out.println("no javap here: how deep calls go was not looked at");
+            return;
+        }
+        Map<String, Set<String>> calls = callsOf(javap.get());
+        int most = 0;
+        for (String from : calls.keySet()) {
+            List<String> row = deepest(calls, from, new HashSet<>());
+            most = Math.max(most, row.size());
+            if (row.size() > 8) {
+                WRONG.add("rule 11: " + row.size() + " calls deep: " + row);
+            }
+        }
+        if (calls.size() < 100 || most < 5) {
+            WRONG.add("the calls were read as " + calls.size() + " methods, " + most + " deep");
+        }
+    }
+
+    public static void main(String[] args) throws IOException, URISyntaxException {
         String source = bare(Files.readString(Path.of("src/main/java/PaneDays.java")));
         imports(source);
         calls(source);
         methods(source);
+        depths();
         none(source, "2", "->", "::", "\\benum\\b.*[{]\\s*$", "new \\w+\\([^)]*\\) *\\{");
         none(source, "3", "\\[\\]\\[\\]", "\\bdouble\\b", "\\bfloat\\b", "[^\\x00-\\x7F]", "\\bObject\\b", "\\bMap\\b");
         none(source, "5", "static (?!final|int|boolean|void)(?!final class)\\w+ \\w+ *=", "static \\{", "static int \\w+( =|;)");
